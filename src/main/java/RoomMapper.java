@@ -69,7 +69,6 @@ public final class RoomMapper {
     private boolean started;
 
     public RoomMapper() {
-        hand.places = MAX_PLACES;
         for (int d = 0; d < SHELVES; d++) {
             shelves[d] = new Shelf();
         }
@@ -764,7 +763,7 @@ public final class RoomMapper {
             if (lead == UNKNOWN) {
                 return UNKNOWN;
             }
-            return sightAt(placeAfter(place, act), lead == BUMP);
+            return lead == BUMP ? sightAt(place, true) : sightAt(lead, false);
         }
 
         private void movePebble() {
@@ -888,10 +887,13 @@ public final class RoomMapper {
 
     /** Counts into how many sets a row of ACTS PARTS the SHEETS. */
     private static final class Parting {
+        // All sights, and behind them what is unknown.
+        private static final int SHOWN = SIGHTS + 1;
+
         private final int[] places = new int[MAX_SHEETS];
         private final int[] sets = new int[MAX_SHEETS];
-        // For each set so far and each sight (the first: unknown) the set that comes of them, from 1.
-        private final int[] finer = new int[MAX_SHEETS * (SIGHTS + 1)];
+        // For each set so far and all that can be SHOWN next the set that comes of them, from 1; 0: none yet.
+        private final int[] finer = new int[MAX_SHEETS * SHOWN];
         private int count;
 
         private int bestRow(Atlas atlas, int n) {
@@ -923,30 +925,20 @@ public final class RoomMapper {
         }
 
         private void refine(Atlas atlas, int act) {
-            Arrays.fill(finer, 0, count * (SIGHTS + 1), 0);
+            Arrays.fill(finer, 0, count * SHOWN, 0);
             count = 0;
             for (int k = 0; k < atlas.count; k++) {
-                int key = sets[k] * (SIGHTS + 1) + show(atlas.now[k], k, act);
+                Sheet sheet = atlas.now[k];
+                // Behind an unknown ACT the walker is nowhere, since all that follows is unknown, too.
+                int sight = places[k] == UNKNOWN ? UNKNOWN : sheet.sightAfter(places[k], act);
+                places[k] = sight == UNKNOWN ? UNKNOWN : sheet.placeAfter(places[k], act);
+                int key = sets[k] * SHOWN + (sight == UNKNOWN ? SIGHTS : sight);
                 if (finer[key] == 0) {
                     count++;
                     finer[key] = count;
                 }
                 sets[k] = finer[key] - 1;
             }
-        }
-
-        /** 0 where it is unknown, as all behind it is then, else the sight and 1. */
-        private int show(Sheet sheet, int k, int act) {
-            if (places[k] == UNKNOWN) {
-                return 0;
-            }
-            int sight = sheet.sightAfter(places[k], act);
-            if (sight == UNKNOWN) {
-                places[k] = UNKNOWN;
-                return 0;
-            }
-            places[k] = sheet.placeAfter(places[k], act);
-            return sight + 1;
         }
     }
 

@@ -40,6 +40,10 @@ public final class HandTest {
     Check.due("all signs are 0 at first", x.fits(), 0);
     x.act(0);
     Check.due("and all acts unknown", x.fits(), 1);
+    x.lead(0, 1, 1, 0);
+    x.start(1);
+    x.act(1);
+    Check.due("not even to place 0", x.fits(), 1);
     x.hand(0, 1, leads(6, 6, 6, 6, 6));
     Check.due("another sign", x.fits(), -4);
     RoomMapper y = Check.cells(2);

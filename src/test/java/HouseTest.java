@@ -70,6 +70,7 @@ public final class HouseTest {
     x.lead(0, 1, 1, 1);
     x.start(6);
     Check.due("a wall bumps", x.act(0), 1);
+    Check.due("as is seen", x.seen(2), 1);
     Check.due("and one stays", x.count(1), 0);
     Check.due("a way doesn't bump", x.act(1), 0);
     Check.due("and leads on", x.count(1), 1);

@@ -108,6 +108,7 @@ public final class PartTest {
     Check.due("however long", x.part(6, 0), 1);
     x.act(5);
     Check.due("now the pebble is seen or not", x.part(1, 0), 2);
+    Check.due("no row parts more, however long", x.next(3), 200);
     Check.due("part changes nothing", x.sheets(), 3);
     Check.due("nor where the walker is", x.sheet(1, 1), 0);
   }

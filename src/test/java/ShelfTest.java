@@ -93,7 +93,7 @@ public final class ShelfTest {
     rowIs(x, 3, 3);
     Check.acts(x, "00");
     rowIs(x, 3, 3);
-    x.keep(3, 4, 0);
+    Check.due("keep(3, 4, 0)", x.keep(3, 4, 0), 0);
     rowIs(x, 3, 3, 1, 2);
     x.make(4, 4, 3);
     Check.due("they are longs", x.copy(3, 0, 4, 0, 3), 3);

@@ -66,7 +66,16 @@ public final class WayTest {
     Check.acts(x, "3333" + "0000");
     Check.due("two steps by the least", x.go(0, 2), 2);
     wayIs(x, 0, 0);
-    Check.acts(x, "2222");
+    x.start(4);
+    Check.acts(x, "03003");
+    Check.due("by unlike acts", x.go(0, 0), 3);
+    wayIs(x, 3, 0, 0);
+    x.start(4);
+    Check.acts(x, "0000");
+    Check.due("by act 0 alone", x.go(0, 3), 3);
+    wayIs(x, 0, 0, 0);
+    x.start(4);
+    Check.acts(x, "3333" + "0000" + "2222");
     Check.due("the other way round is as long, and not the least", x.go(0, 2), 2);
     wayIs(x, 0, 0);
     Check.due("one back", x.go(0, 3), 1);
