@@ -3,7 +3,7 @@ import java.util.Arrays;
 /** Maps a house from the signs, the pebble and the bumps of one walker; ../shared/DOC.md says what each call answers. */
 public final class RoomMapper {
     private static final int NO_SUCH = -1;
-    private static final int NOT_YET = -2;
+    private static final int CANNOT = -2;
     private static final int TOO_MANY = -3;
     private static final int OTHER_SIGN = -4;
     private static final int NOTHING_HELD = -11;
@@ -79,7 +79,7 @@ public final class RoomMapper {
             return NO_SUCH;
         }
         if (house.cells >= MAX_CELLS) {
-            return NOT_YET;
+            return CANNOT;
         }
         return house.addCell(sign, plate);
     }
@@ -100,7 +100,7 @@ public final class RoomMapper {
             return NO_SUCH;
         }
         if (house.cells == 0) {
-            return NOT_YET;
+            return CANNOT;
         }
         started = true;
         house.begin();
@@ -114,7 +114,7 @@ public final class RoomMapper {
             return NO_SUCH;
         }
         if (!started) {
-            return NOT_YET;
+            return CANNOT;
         }
         if (walk.length >= MAX_WALK) {
             return TOO_MANY;
@@ -131,7 +131,7 @@ public final class RoomMapper {
             return NO_SUCH;
         }
         if (!started) {
-            return NOT_YET;
+            return CANNOT;
         }
         int sight = house.sight(walk.bumpedLast());
         switch (what) {
@@ -245,7 +245,7 @@ public final class RoomMapper {
         if (!isPlace(k, place)) {
             return NO_SUCH;
         }
-        return route.find(atlas.now[k], place) ? route.length : NOT_YET;
+        return route.find(atlas.now[k], place) ? route.length : CANNOT;
     }
 
     public int way(int i) {
@@ -265,7 +265,7 @@ public final class RoomMapper {
 
     public int fits() {
         if (!started) {
-            return NOT_YET;
+            return CANNOT;
         }
         hand.returnToStart();
         if (hand.signs[0] != house.signs[0]) {
@@ -294,7 +294,7 @@ public final class RoomMapper {
             return house.cells;
         }
         if (!started) {
-            return NOT_YET;
+            return CANNOT;
         }
         switch (what) {
             case 1:
@@ -312,7 +312,7 @@ public final class RoomMapper {
 
     public int reached() {
         if (!started) {
-            return NOT_YET;
+            return CANNOT;
         }
         todo.clear();
         todo.addOnce(house.stand);
@@ -475,12 +475,12 @@ public final class RoomMapper {
     /** The refusal of calls that are told by the SHEETS, or 0. */
     private int unmapped() {
         if (!started) {
-            return NOT_YET;
+            return CANNOT;
         }
         return atlas.spent ? TOO_MANY : 0;
     }
 
-    /** As unmapped(), for calls that refuse where no SHEET fits, too; SPENT must come first, or it could never be told. */
+    /** As unmapped(), for calls that refuse where no SHEET fits, too; that comes last, or SPENT could never be told. */
     private int unsheeted() {
         int refusal = unmapped();
         if (refusal != 0) {
@@ -838,7 +838,7 @@ public final class RoomMapper {
             count = spent ? 0 : spared;
         }
 
-        /** Every SHEET has the PEBBLE in hand, underfoot or elsewhere just as THE HOUSE has, so the same is done on all. */
+        /** Each SHEET has the PEBBLE in hand, underfoot or elsewhere just as THE HOUSE has, so the same is done on all. */
         private void movePebbles() {
             for (int k = 0; k < count; k++) {
                 now[k].movePebble();

@@ -45,6 +45,15 @@ final class Check {
     return x;
   }
 
+  /** As cells(), each with a WAY as LEAD 0 to the next one, the last to the first. */
+  static RoomMapper ring(int... signs) {
+    RoomMapper x = cells(signs);
+    for (int i = 0; i < signs.length; i++) {
+      x.lead(i, 0, 1, (i + 1) % signs.length);
+    }
+    return x;
+  }
+
   static void end() {
     System.out.println((done - wrong) + " of " + done + " answers are as due");
     if (wrong != 0 || done == 0) {

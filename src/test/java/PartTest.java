@@ -12,16 +12,8 @@ public final class PartTest {
     Check.end();
   }
 
-  private static RoomMapper ring(int... signs) {
-    RoomMapper x = Check.cells(signs);
-    for (int i = 0; i < signs.length; i++) {
-      x.lead(i, 0, 1, (i + 1) % signs.length);
-    }
-    return x;
-  }
-
   private static void one() {
-    RoomMapper x = ring(0, 1, 0);
+    RoomMapper x = Check.ring(0, 1, 0);
     x.start(3);
     Check.due("before any act", x.one(0, 0), 1);
     x.act(0);
@@ -44,7 +36,7 @@ public final class PartTest {
   }
 
   private static void oneRefused() {
-    RoomMapper x = ring(0, 1);
+    RoomMapper x = Check.ring(0, 1);
     Check.due("one(0, 0) without a start", x.one(0, 0), -2);
     Check.due("one(-1, 0) without a start", x.one(-1, 0), -1);
     Check.due("one(1, 0) without a start", x.one(1, 0), -1);
@@ -70,7 +62,7 @@ public final class PartTest {
   }
 
   private static void partByWhatIsUnknown() {
-    RoomMapper x = ring(0, 0);
+    RoomMapper x = Check.ring(0, 0);
     x.start(2);
     x.act(0);
     Check.due("known on one sheet alone", x.part(1, 0), 2);
@@ -100,7 +92,7 @@ public final class PartTest {
   }
 
   private static void partByThePebble() {
-    RoomMapper x = ring(0, 0);
+    RoomMapper x = Check.ring(0, 0);
     x.start(2);
     Check.acts(x, "00");
     Check.due("three sheets", x.sheets(), 3);
@@ -114,7 +106,7 @@ public final class PartTest {
   }
 
   private static void partBySigns() {
-    RoomMapper x = ring(0, 0, 0, 1);
+    RoomMapper x = Check.ring(0, 0, 0, 1);
     x.start(4);
     Check.acts(x, "0000");
     Check.due("back to one of three", x.sheets(), 3);
@@ -129,7 +121,7 @@ public final class PartTest {
   }
 
   private static void partAndNextRefused() {
-    RoomMapper x = ring(0, 1);
+    RoomMapper x = Check.ring(0, 1);
     Check.due("part without a start", x.part(1, 0), -2);
     Check.due("part(0, 0) without a start", x.part(0, 0), -1);
     Check.due("next without a start", x.next(1), -2);

@@ -14,14 +14,6 @@ public final class SheetTest {
     Check.end();
   }
 
-  private static RoomMapper ring(int... signs) {
-    RoomMapper x = Check.cells(signs);
-    for (int i = 0; i < signs.length; i++) {
-      x.lead(i, 0, 1, (i + 1) % signs.length);
-    }
-    return x;
-  }
-
   private static void sheetIs(RoomMapper x, int k, int places, int walker, int pebble, int known) {
     int[] due = {places, walker, pebble, known};
     for (int what = 0; what < 4; what++) {
@@ -30,7 +22,7 @@ public final class SheetTest {
   }
 
   private static void guessesInTheirOrder() {
-    RoomMapper x = ring(2, 2, 2);
+    RoomMapper x = Check.ring(2, 2, 2);
     x.start(3);
     sheetIs(x, 0, 1, 0, -2, 0);
     x.act(0);
@@ -63,7 +55,7 @@ public final class SheetTest {
   }
 
   private static void bumps() {
-    RoomMapper x = ring(0, 1);
+    RoomMapper x = Check.ring(0, 1);
     x.start(6);
     x.act(3);
     Check.due("a bump makes no sheets", x.sheets(), 1);
@@ -92,7 +84,7 @@ public final class SheetTest {
   }
 
   private static void thePebbleParts() {
-    RoomMapper x = ring(1, 1);
+    RoomMapper x = Check.ring(1, 1);
     x.start(6);
     x.act(5);
     sheetIs(x, 0, 1, 0, 0, 0);
@@ -141,7 +133,7 @@ public final class SheetTest {
   }
 
   private static void fewPlaces() {
-    RoomMapper x = ring(0, 1, 2, 3);
+    RoomMapper x = Check.ring(0, 1, 2, 3);
     for (int m = 1; m <= 6; m++) {
       x.start(m);
       x.act(0);
@@ -156,7 +148,7 @@ public final class SheetTest {
   }
 
   private static void noSheets() {
-    RoomMapper x = ring(0, 1);
+    RoomMapper x = Check.ring(0, 1);
     x.start(1);
     x.act(0);
     Check.due("sheets() of none", x.sheets(), 0);
@@ -227,7 +219,7 @@ public final class SheetTest {
   }
 
   private static void wrongNumbers() {
-    RoomMapper x = ring(3, 1);
+    RoomMapper x = Check.ring(3, 1);
     Check.due("sheets() without a start", x.sheets(), -2);
     Check.due("known() without a start", x.known(), -2);
     Check.due("sheet without a start", x.sheet(0, 0), -1);
@@ -285,6 +277,8 @@ public final class SheetTest {
     Check.acts(y, "3134");
     Check.due("one sheet", y.sheets(), 1);
     Check.due("but for act 0", y.known(), 0);
+    Check.due("what the house has", y.reached(), 2);
+    Check.due("doesn't change that", y.known(), 0);
     Check.acts(y, "2");
     Check.due("but for act 0 of the other place", y.known(), 0);
     Check.acts(y, "30");

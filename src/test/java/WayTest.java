@@ -111,10 +111,7 @@ public final class WayTest {
   }
 
   private static void isTrue() {
-    RoomMapper x = Check.cells(0, 0, 1);
-    for (int i = 0; i < 3; i++) {
-      x.lead(i, 0, 1, (i + 1) % 3);
-    }
+    RoomMapper x = Check.ring(0, 0, 1);
     Check.due("isTrue without a start", x.isTrue(0), -1);
     x.start(3);
     Check.due("where nothing is known", x.isTrue(0), 1);
