@@ -205,12 +205,13 @@ public final class RoomMapper {
     }
 
     public int one(int i, int j) {
-        if (!within(i, walk.length + 1) || !within(j, walk.length + 1)) {
-            return NO_SUCH;
-        }
+        // This promise tells an order of its own: -2, -3, and every -1 behind them.
         int refusal = unsheeted();
         if (refusal != 0) {
             return refusal;
+        }
+        if (!within(i, walk.length + 1) || !within(j, walk.length + 1)) {
+            return NO_SUCH;
         }
         int alike = 0;
         for (int k = 0; k < atlas.count; k++) {

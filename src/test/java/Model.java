@@ -287,9 +287,8 @@ final class Model {
   }
 
   int one(int i, int j) {
-    if (i < 0 || j < 0 || i > steps.size() || j > steps.size()) return -1;
     if (sheets() < 0) return sheets();
-    if (maps.isEmpty()) return -1;
+    if (maps.isEmpty() || i < 0 || j < 0 || i > steps.size() || j > steps.size()) return -1;
     Set<Boolean> said = new HashSet<>();
     for (Map m : maps) said.add(m.history.get(i).equals(m.history.get(j)));
     return said.size() == 2 ? 2 : said.contains(true) ? 1 : 0;

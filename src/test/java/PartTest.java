@@ -36,19 +36,31 @@ public final class PartTest {
   }
 
   private static void oneRefused() {
+    Check.due("one(0, 1) of a new object", new RoomMapper().one(0, 1), -2);
     RoomMapper x = Check.ring(0, 1);
     Check.due("one(0, 0) without a start", x.one(0, 0), -2);
-    Check.due("one(-1, 0) without a start", x.one(-1, 0), -1);
-    Check.due("one(1, 0) without a start", x.one(1, 0), -1);
+    Check.due("one(1, 0) without a start", x.one(1, 0), -2);
+    Check.due("one(0, 1) without a start", x.one(0, 1), -2);
+    Check.due("one(-1, 0) without a start", x.one(-1, 0), -2);
+    Check.due("one(0, max) without a start", x.one(0, Integer.MAX_VALUE), -2);
     x.start(1);
     Check.due("one(0, 1) of no acts", x.one(0, 1), -1);
+    Check.due("one(1, 0) of no acts", x.one(1, 0), -1);
     Check.due("one(0, -1)", x.one(0, -1), -1);
+    Check.due("one(-1, 0)", x.one(-1, 0), -1);
     Check.due("one(max, 0)", x.one(Integer.MAX_VALUE, 0), -1);
     x.act(0);
     Check.due("one without sheets", x.one(0, 1), -1);
+    Check.due("one without sheets, of too many acts", x.one(0, 2), -1);
     RoomMapper y = spent();
     Check.due("one when spent", y.one(0, 5), -3);
-    Check.due("one when spent, of too many acts", y.one(0, 6), -1);
+    Check.due("one when spent, of too many acts", y.one(0, 6), -3);
+    Check.due("one(6, 0) when spent", y.one(6, 0), -3);
+    Check.due("one(0, -1) when spent", y.one(0, -1), -3);
+    Check.due("one(min, 0) when spent", y.one(Integer.MIN_VALUE, 0), -3);
+    y.start(6);
+    Check.due("a start ends that", y.one(0, 0), 1);
+    Check.due("and there were not so many", y.one(0, 1), -1);
   }
 
   private static RoomMapper spent() {
