@@ -4,6 +4,8 @@ import java.util.Random;
 public final class ModelTest {
   private static final int RUNS = 3000;
   private static final int CALLS = 512;
+  /** A start, an ACT, and a copy() with the elements behind it. */
+  private static final int MOST_IN_A_ROUND = 15;
   private static final int[] ODD = {-1, -2, 7, 8, 10, 60, 61, 200, 32768, Integer.MIN_VALUE, Integer.MAX_VALUE};
 
   private final Random random;
@@ -56,7 +58,7 @@ public final class ModelTest {
       }
     }
     build(1 + random.nextInt(random.nextInt(3) == 0 ? 9 : 3));
-    while (calls < CALLS) {
+    while (calls <= CALLS - MOST_IN_A_ROUND) {
       if (random.nextInt(60) == 0) {
         start();
       }
