@@ -4,8 +4,8 @@ import java.util.List;
 /**
  * Whether a call changed anything: two objects are brought to the same state, one of them gets the call as well, and
  * then both must answer all alike. One object is used for 512 calls at most, so this is done once for each of a number
- * of rows of calls, which together tell all that can be told: what is seen now, and what comes of more ACTS, of a start,
- * and of all LEADS and SHELVES.
+ * of rows of calls, which together tell all that can be told: what there is now, and what comes of more ACTS and of a
+ * start.
  */
 final class Probe {
   private static final List<List<Call>> ROWS = List.of(looks(), walk(0), walk(1), walk(2), walk(3), sheets(0, 1, 2, 3),

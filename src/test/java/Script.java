@@ -15,12 +15,15 @@ final class Script {
 
   private Script() { }
 
-  /** The sentence of the document that is held is told with each answer that isn't due. */
-  static void play(String sentence, String text) {
+  /**
+   * The sentence of the document that is held is told with each answer that isn't due. The values stand in the text as
+   * $1, $2 ..
+   */
+  static void play(String sentence, String text, int... values) {
     RoomMapper x = new RoomMapper();
     List<Call> done = new ArrayList<>();
     int calls = 0;
-    for (Line line : lines(text)) {
+    for (Line line : lines(filled(text, values))) {
       long got = line.call.on(x);
       calls++;
       if (line.due != null) {
@@ -41,11 +44,19 @@ final class Script {
     }
   }
 
+  private static String filled(String text, int... values) {
+    String full = text;
+    for (int i = 0; i < values.length; i++) {
+      full = full.replace("$" + (i + 1), "" + values[i]);
+    }
+    return full;
+  }
+
   private static List<Line> lines(String text) {
     List<Line> lines = new ArrayList<>();
     for (String piece : text.split("[;\n]")) {
       String told = piece.trim();
-      if (told.startsWith("acts ")) {
+      if (told.matches("acts [0-9]+")) {
         for (char act : told.substring(5).toCharArray()) {
           lines.add(new Line(new Call("act", act - '0'), false, null));
         }
