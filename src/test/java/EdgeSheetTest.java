@@ -134,7 +134,7 @@ public final class EdgeSheetTest {
         part 0 0 ! -1; part 7 0 ! -1; part -1 0 ! -1; part min 0 ! -1; part max 0 ! -1; part 0 -1 ! -1
         part 7 78125 ! -1
         """);
-    // How many there are was counted by Model; the class and it share nothing.
+    // Found by a search with the class; Model, which has no code of it, counts as many.
     Script.play("Promise 14: Into how many sets: many", """
         cell 0 0; cell 0 0; lead 1 0 1 1; lead 0 1 1 1; lead 1 1 1 0; lead 1 3 1 1; start 3; acts 03134301245
         sheets = 130; part 6 11776 = 36; part 1 0 = 4; part 6 11776 = 36

@@ -255,6 +255,7 @@ public final class EdgeTermsTest {
 
   private static void spent() {
     String spent = "More than 150 SHEETS: SPENT: there are none any more till the next start (nor anything told ..)";
+    // These walks were found by a search; Model without a limit counts 149, 150 and 151 SHEETS, too.
     Script.play(spent + ": 149", """
         cell 0 0; cell 0 0; lead 0 1 1 0; lead 0 2 1 1; start 5; acts 1114214; sheets = 149; sheet 148 1 = 4
         """);
