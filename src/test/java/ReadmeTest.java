@@ -14,7 +14,7 @@ import java.util.stream.Stream;
 
 /**
  * README.md holds: each call that it shows answers as the comment behind it says, it shows every call of the face, and
- * it names the way to run the tests and every test that there is. It is run in the project's directory, as .ci/run does.
+ * it names .ci/run as the way to run the tests, and every test that there is. It looks for them where .ci/run runs it.
  */
 public final class ReadmeTest {
   private static final Path README = Path.of("README.md");
@@ -116,7 +116,8 @@ public final class ReadmeTest {
   }
 
   private static void wayToRun(List<String> lines) {
-    isDue("the commands that README.md names", blocks(lines, "sh").toString(), List.of(SCRIPT.toString(), "").toString());
+    List<String> want = List.of(SCRIPT.toString(), "");
+    isDue("the commands that README.md names", blocks(lines, "sh").toString(), want.toString());
     Check.due(SCRIPT + " can be run", Files.isExecutable(SCRIPT) ? 1 : 0, 1);
   }
 
